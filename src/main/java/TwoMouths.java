@@ -42,7 +42,6 @@ public final class TwoMouths {
     public TwoMouths() {
         tape = new Tape();
         townReader = new TownReader(tape);
-        lawReader = new LawReader(tape);
         state = new State();
         images = new State[MOST_IMAGES];
         for (int k = 0; k < MOST_IMAGES; k++) {
@@ -53,6 +52,7 @@ public final class TwoMouths {
         for (int k = 0; k < MOST_LAWS; k++) {
             laws[k] = new Law();
         }
+        lawReader = new LawReader(tape, laws[0]);
         parts = new Parts();
         spread = new Spread(state, laws[0], parts);
         tryout = new Talks(MOST_TALKS + 1);
@@ -925,11 +925,12 @@ public final class TwoMouths {
         private static final int MOST_DEPTH = 10;
 
         private final Tape tape;
-        private Law draft = new Law();
+        private Law draft;
         private int pieces;
 
-        private LawReader(Tape tape) {
+        private LawReader(Tape tape, Law someLaw) {
             this.tape = tape;
+            draft = someLaw;
         }
 
         private int read(Law law) {
@@ -1653,8 +1654,11 @@ public final class TwoMouths {
             Arrays.fill(heard, 0);
             Arrays.fill(heardBehind, 0);
             for (int p = 0; p < PEOPLE; p++) {
-                now[p].clear();
-                behind[p].clear();
+                // Only who had a ROW in the run ahead of this one has something to clear.
+                if (hasFrom[p] > 0) {
+                    now[p].clear();
+                    behind[p].clear();
+                }
                 believesFrom[p] = isFirst(p) ? 0 : NEVER;
                 hasFrom[p] = believesFrom[p];
             }

@@ -75,13 +75,15 @@ public final class FuzzTest {
     }
 
     private void run() {
-        write(texts.town());
+        boolean lively = chance.nextInt(3) > 0;
+        write(lively ? texts.livelyTown() : texts.town());
         same("town", x.town(), o.town());
-        write(texts.law());
+        write(lively ? texts.mildLaw() : texts.law());
         same("law", x.law(), o.law());
-        same("first", x.first(3), o.first(3), 3);
+        int seeing = lively ? 1 + chance.nextInt(15) : set();
+        same("first", x.first(seeing), o.first(seeing), seeing);
         for (int i = 0; i < CALLS; i++) {
-            if (chance.nextInt(3) == 0) {
+            if (chance.nextInt(lively ? 8 : 3) == 0) {
                 change();
             } else if (chance.nextInt(12) == 0) {
                 search();

@@ -63,6 +63,31 @@ final class Texts {
         return hurt(text, 4);
     }
 
+    /** A town in which much is told: nearly all talks, most of them one behind the other. */
+    String livelyTown() {
+        int people = 4 + chance.nextInt(7);
+        StringBuilder text = new StringBuilder("need" + chance.nextInt(people) + gap() + 3);
+        text.append(";need").append(chance.nextInt(people)).append(' ').append(1 + chance.nextInt(3));
+        int hour = 1;
+        for (int i = 0; i < 30; i++) {
+            hour = Math.min(99, hour + chance.nextInt(3));
+            int when = chance.nextInt(5) == 0 ? 1 + chance.nextInt(99) : hour;
+            String clause = ";talk" + unlike(people).strip() + " " + when;
+            if (text.length() + clause.length() < 399) {
+                text.append(clause);
+            }
+        }
+        return text.toString();
+    }
+
+    /** A law that mostly lets tell. */
+    String mildLaw() {
+        String[] all = {"tell 1=1", "hush 1=0", "tell hour>0", "tell rows+sees>0", "tell believes=1",
+            "hush knows=1", "tell shortest<4", "tell mouths>1 or sees=1", "hush from>to and hour/2*2=hour",
+            "hush rows>5", "tell not [from=1 or to=1]", "tell sees=1;tell rows>1", "hush mouths=3"};
+        return one(all);
+    }
+
     private String value() {
         return chance.nextInt(3) == 0 ? Integer.toString(chance.nextInt(chance.nextInt(20) == 0 ? 99999 : 9))
                 : one(WORDS);
