@@ -149,6 +149,8 @@ public final class ReadingTest {
         c.town("talk 0 10 100", Check.fault(7, 1));
         c.town("talk 12 10 100", Check.fault(5, 1));
         c.town("talk 0 1", Check.fault(8, 0));
+        c.town("talk 10 1 1", Check.fault(5, 1));
+        c.town("needz 1 1", Check.fault(0, 0));
         c.due("nothing came", c.x.count(0), 0);
     }
 
@@ -204,6 +206,8 @@ public final class ReadingTest {
         c.law("tell 1=1 andfrom=1", Check.fault(9, 0));
         c.law("tell nothour=1", Check.fault(5, 0));
         c.law("tell houre=1", Check.fault(5, 0));
+        c.law("tell hourz=1", Check.fault(5, 0));
+        c.law("tell 1=1 orz 1=1", Check.fault(9, 0));
         c.law("tell Hour=1", Check.fault(5, 0));
         c.law("tell 1<2<3", Check.fault(8, 0));
         c.law("tell 1< =2", Check.fault(8, 0));

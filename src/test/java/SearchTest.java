@@ -139,9 +139,10 @@ public final class SearchTest {
         c.due("never", c.x.moved(0, 1, 5, 0), -2).due("never", c.x.moved(0, 1, 5, 1), -2);
         c.due("it stays", c.x.talks(0, 2), 50).due("it stays", c.x.talks(1, 2), 10);
         c.law("tell hour>97", 1).due("late", c.x.moved(1, 0, 1, 0), 98).due("late", c.x.moved(1, 0, 1, 1), 98);
+        c.law("tell hour=99", 2).due("at the last", c.x.moved(2, 0, 1, 0), 99).due("at the last", c.x.moved(2, 0, 1, 1), 99);
         c.due("what", c.x.moved(0, 0, 0, 2), -1).due("what", c.x.moved(0, 0, 0, -1), -1);
         c.due("talk", c.x.moved(0, 2, 0, 0), -1).due("talk", c.x.moved(0, -1, 0, 0), -1);
-        c.due("law", c.x.moved(2, 0, 0, 0), -1).due("nobody", c.x.moved(0, 0, 10, 0), -1);
+        c.due("law", c.x.moved(3, 0, 0, 0), -1).due("nobody", c.x.moved(0, 0, 10, 0), -1);
     }
 
     private static void saying(Check c, int other, int hour, int one, int another, int torn) {
