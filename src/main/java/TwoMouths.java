@@ -95,10 +95,11 @@ public final class TwoMouths {
             return NONE;
         }
         int fault = lawReader.read(laws[lawCount]);
+        // Unlike a town's, a law's tape is empty behind a fault, too.
+        tape.length = 0;
         if (fault != 0) {
             return -2 - fault;
         }
-        tape.length = 0;
         lawCount++;
         return lawCount - 1;
     }

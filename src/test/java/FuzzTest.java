@@ -102,10 +102,12 @@ public final class FuzzTest {
             case 0 -> {
                 write(texts.town());
                 same("town", x.town(), o.town());
+                same("tape", x.count(7), o.count(7));
             }
             case 1, 2 -> {
                 write(texts.law());
                 same("law", x.law(), o.law());
+                same("tape", x.count(7), o.count(7));
             }
             case 3, 4, 5 -> same("talk", x.talk(a, b, h), o.talk(a, b, h), a, b, h);
             case 6 -> {
@@ -124,7 +126,15 @@ public final class FuzzTest {
             case 12 -> same("image", x.image(k), o.image(k), k);
             case 13 -> same("back", x.back(k), o.back(k), k);
             case 14 -> same("end", x.end(h - 20), o.end(h - 20), h - 20);
-            default -> same("town", x.town(), o.town());
+            default -> {
+                // Of whatever the tape has by now: what a town's fault left, or nothing.
+                if (chance.nextBoolean()) {
+                    same("law", x.law(), o.law());
+                } else {
+                    same("town", x.town(), o.town());
+                }
+                same("tape", x.count(7), o.count(7));
+            }
         }
     }
 

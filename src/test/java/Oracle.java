@@ -533,12 +533,13 @@ final class Oracle {
         if (laws.size() == 6) {
             return -1;
         }
+        List<Integer> text = List.copyOf(tape);
+        tape.clear();
         try {
-            laws.add(readLaw(tape));
+            laws.add(readLaw(text));
         } catch (Fault f) {
             return -2 - f.number;
         }
-        tape.clear();
         return laws.size() - 1;
     }
 

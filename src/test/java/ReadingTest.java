@@ -10,6 +10,8 @@ public final class ReadingTest {
         law();
         lawFaults();
         lawTooMany();
+        lawFaultTape();
+        tapeOfTownAndLaw();
         lawWords();
         lawNumbers();
         Check.finish();
@@ -181,7 +183,7 @@ public final class ReadingTest {
     private static void law() {
         Check c = new Check("promise 5");
         c.law("tell 1=1", 0).due("tape", c.x.count(7), 0).due("laws", c.x.count(1), 1);
-        c.law("tell 1=", Check.fault(7, 0)).due("tape stays", c.x.count(7), 7);
+        c.law("tell 1=", Check.fault(7, 0)).due("no tape", c.x.count(7), 0);
         c.due("laws stay", c.x.count(1), 1);
         c.law("tell1=1", 1);
         c.law("hush hour<5and from=1or to>=2", 2);
@@ -189,7 +191,58 @@ public final class ReadingTest {
         c.law("tell 00001 - 1 * 2 / 3 <= 99999", 4);
         c.law("tell hour=from+to-believes*knows/mouths and shortest=rows or sees=0", 5);
         c.law("tell 1=1", -1).due("tape stays", c.x.count(7), 8);
-        c.law("tell", -1).due("laws", c.x.count(1), 6);
+        c.law("tell", -1).due("laws", c.x.count(1), 6).due("tape stays", c.x.count(7), 4);
+        c.due("its bytes, too", c.x.town(), Check.fault(0, 0)).due("tape stays", c.x.count(7), 4);
+    }
+
+    /** What all calls about the tape answer behind a fault of a law, wherever it lies. */
+    private static void lawFaultTape() {
+        emptyBehind("", 0, 0);
+        emptyBehind(" ".repeat(400), 400, 0);
+        emptyBehind("\0".repeat(20), 0, 0);
+        emptyBehind("tall 1=1", 0, 0);
+        emptyBehind("  need 1 1", 2, 0);
+        emptyBehind("tell 1=1;hush from+*to=1", 19, 0);
+        emptyBehind("tell 123456=1;hush 1=1", 5, 1);
+        emptyBehind("tell " + "[".repeat(11) + "1=1", 15, 2);
+        emptyBehind("tell 1" + "+1".repeat(58) + "=1", 123, 3);
+        emptyBehind(many("tell 1=1", 13), 108, 4);
+        emptyBehind("tell 1=1;hush 1=", 16, 0);
+        emptyBehind("tell 1=1" + " ".repeat(391) + "x", 399, 0);
+        emptyBehind("tell 1=1;" + " ".repeat(391), 400, 0);
+    }
+
+    private static void emptyBehind(String text, int place, int kind) {
+        Check c = new Check("promise 5, behind a fault");
+        c.town("talk 0 1 1;talk 0 2 2", 2).law("tell to=1", 0);
+        c.x.first(1);
+        c.law(text, Check.fault(place, kind));
+        c.due("tape", c.x.count(7), 0).due("laws", c.x.count(1), 1).due("talks", c.x.count(0), 2);
+        c.due("no law more", c.x.tells(1, 0), -1);
+        c.due("the law there was", c.x.tells(0, 0), 1).due("the law there was", c.x.tells(0, 1), 0);
+        c.due("end", c.x.end(1), -1).due("end", c.x.end(0), 0).due("end", c.x.end(text.length() + 1), -1);
+        c.due("law of nothing", c.x.law(), Check.fault(0, 0)).due("tape", c.x.count(7), 0);
+        c.due("town of nothing", c.x.town(), Check.fault(0, 0));
+        c.due("feed", c.x.feed(0, 0, 0, 0, 0), 20).due("end", c.x.end(0), 0);
+        // The next text stands alone: nothing of the one with the fault is ahead of it or behind it.
+        c.write("hush 1=1").due("law", c.x.law(), 1).due("tape", c.x.count(7), 0);
+        c.due("the new law", c.x.tells(1, 0), 0).due("the new law", c.x.tells(1, 1), 0);
+        c.write("talk 3 4 5").due("town", c.x.town(), 1);
+    }
+
+    /** A town's fault leaves the tape, so that law reads it; a law's doesn't, so that town has none. */
+    private static void tapeOfTownAndLaw() {
+        Check c = new Check("promises 4 and 5, the tape");
+        c.write("tell 1=1").due("town", c.x.town(), Check.fault(0, 0)).due("tape", c.x.count(7), 8);
+        c.due("law", c.x.law(), 0).due("tape", c.x.count(7), 0);
+        c.write("talk 0 1 1").due("law", c.x.law(), Check.fault(0, 0)).due("tape", c.x.count(7), 0);
+        c.due("town", c.x.town(), Check.fault(0, 0)).due("talks", c.x.count(0), 0);
+        for (int k = 1; k < 6; k++) {
+            c.write("tell 1=1").due("law", c.x.law(), k);
+        }
+        c.write("talk 0 1 1").due("six", c.x.law(), -1).due("tape stays", c.x.count(7), 10);
+        c.due("feed goes on", c.x.feed(0x20202020, 0, 0, 0, 0), 30).due("end", c.x.end(14), 14);
+        c.due("six", c.x.law(), -1).due("town", c.x.town(), 1).due("tape", c.x.count(7), 0);
     }
 
     private static void lawFaults() {
