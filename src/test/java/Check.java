@@ -9,6 +9,10 @@ final class Check {
         this.name = name;
     }
 
+    String name() {
+        return name;
+    }
+
     Check due(String call, int got, int want) {
         looked++;
         if (got != want) {
