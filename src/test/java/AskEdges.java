@@ -152,6 +152,10 @@ final class AskEdges {
         c.due("from 1 on", c.x.last(0), 1);
         c.x.first(1023);
         c.due("all at 0", c.x.last(0), 0);
+        c.town("need 0 1;need 9 1;talk 5 0 9;talk 5 9 8", 2);
+        c.x.first(32);
+        c.due("0 is the last", c.x.last(0), 9);
+        c.town("need 0 1;need 9 1;talk 5 0 8;talk 5 9 9", 2).due("9 is the last", c.x.last(0), 9);
     }
 
     private static void rowAt() {
@@ -164,6 +168,14 @@ final class AskEdges {
             }
         }
         c.due("far", c.x.rowAt(0, 8, 99, MAX), -2).due("first", c.x.rowAt(0, 9, 99, 0), -2).due("at 0", c.x.rowAt(0, 8, 0, 0), -2);
+        // Rows whose numbers follow one another: 3 and 4, passed on as 515 and 516.
+        c.town("talk 0 1 1;talk 1 9 2;talk 2 9 3;talk 9 8 4", 4);
+        c.x.first(5);
+        c.due("3", c.x.rowAt(0, 9, 3, 0), 3).due("4", c.x.rowAt(0, 9, 3, 1), 4).due("no more", c.x.rowAt(0, 9, 3, 2), -2);
+        c.due("515", c.x.rowAt(0, 8, 4, 0), 515).due("516", c.x.rowAt(0, 8, 4, 1), 516).due("no more", c.x.rowAt(0, 8, 4, 2), -2);
+        c.due("shortest", c.x.known(0, 9, 3, 1), 1).due("gate", c.x.known(0, 9, 3, 2), -2).due("gate", c.x.known(0, 8, 4, 2), 9);
+        c.due("some", c.x.mouths(0, 9, 3, 0), 7).due("all", c.x.mouths(0, 9, 3, 1), 0).due("all", c.x.mouths(0, 8, 4, 1), 512);
+        c.due("apart", c.x.apart(0, 9, 3), 2).due("part", c.x.known(0, 9, 3, 4), 4);
     }
 
     private static void mouths() {
@@ -205,6 +217,9 @@ final class AskEdges {
                 + "talk 1 0 2;talk 0 8 1;talk 0 3 1;talk 1 3 3", 9, 1);
         c.due("two of three", c.x.doubts(0, 3), 8).due("three of three", c.x.doubts(0, 4), 520).due("at 2", c.x.doubts(0, 2), 0);
         c.due("first ones, and who needs one, never do", c.x.doubts(0, 99), 520);
+        c.town("talk 5 1 1;talk 5 2 1;talk 1 0 2;talk 2 0 2;talk 1 9 2;talk 2 9 2", 6);
+        c.x.first(32);
+        c.due("0 and 9", c.x.doubts(0, 2), 513);
     }
 
     private static void apart() {
@@ -266,6 +281,11 @@ final class AskEdges {
         c.due("all", c.x.reach(0, 91), 1023).due("himself alone", c.x.reach(0, 92), 1);
         // Who can be led to early and late is led to early.
         c.town("talk 0 1 3;talk 0 1 9;talk 1 2 5", 3).due("early", c.x.reach(0, 3), 7).due("late", c.x.reach(0, 4), 3);
+        // What a call ahead of it has tried is gone.
+        c.law("tell 1=1", 0).town("talk 0 1 3;talk 1 2 5", 2);
+        c.due("moved", c.x.moved(0, 0, 0, 0), -2).due("behind moved", c.x.reach(0, 0), 7);
+        c.due("letter", c.x.letter(0, 2, 1), -2).due("behind letter", c.x.reach(0, 0), 7);
+        c.due("byBook", c.x.byBook(0, 2), -2).due("behind byBook", c.x.reach(0, 0), 7);
     }
 
     private static void ways(Check c, int person, int row, int... due) {
@@ -303,6 +323,11 @@ final class AskEdges {
         Check c = Sentence.told("IV", quote, "talk 0 1 4;talk 0 1 2;talk 0 1 1;talk 1 2 4;talk 1 2 3", 5, 1);
         // At 4 and behind it he has it already; talk 0 is at no hour above.
         ways(c, 2, 3, 1, 4, -2);
+        c.town("talk 0 1 3;talk 0 1 1;talk 1 2 3", 3);
+        ways(c, 2, 3, 1, 2, -2);
+        // The last one is to him, not to another one at that hour.
+        c.town("talk 0 1 1;talk 1 5 3;talk 1 2 3;talk 1 2 4", 4);
+        ways(c, 2, 3, 0, 2, -2);
         c.town("deaf 1 2 2;talk 0 1 2;talk 0 1 1;talk 1 2 3", 3);
         ways(c, 2, 3, 1, 2, -2);
         c.town("proud 1 3;talk 0 3 1;talk 3 1 2;talk 3 2 2;talk 2 1 3;talk 0 1 3;talk 1 4 4", 6);

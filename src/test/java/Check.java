@@ -25,11 +25,15 @@ final class Check {
     /** Puts a text behind the tape, and nothing else. */
     Check write(String text) {
         int before = x.count(7);
-        for (int at = 0; at < text.length(); at += 20) {
-            x.feed(four(text, at), four(text, at + 4), four(text, at + 8), four(text, at + 12),
-                    four(text, at + 16));
-        }
+        feed(x, text);
         return due("end behind a text", x.end(before + text.length()), before + text.length());
+    }
+
+    /** Feeds a text, the last bytes being 0. */
+    static void feed(TwoMouths x, String text) {
+        for (int at = 0; at < text.length(); at += 20) {
+            x.feed(four(text, at), four(text, at + 4), four(text, at + 8), four(text, at + 12), four(text, at + 16));
+        }
     }
 
     private static int four(String text, int at) {

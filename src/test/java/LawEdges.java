@@ -78,6 +78,15 @@ final class LawEdges {
         reads(c, most + "x", Check.fault(399, 0));
         reads(c, most + " ", Check.fault(400, 0));
         reads(c, "", Check.fault(0, 0));
+        // Each piece that wants more behind it, as the last one of a whole tape.
+        String[] ends = {"tell 1<", "tell 1>", "tell 1=", "tell 1<=", "tell 1>=", "tell 1+", "tell 1-", "tell 1*", "tell 1/", "tell [",
+            "tell not", "tell", "hush", "tell 1=1;", "tell 1=1 or", "tell 1=1 and", "tell [1=1", "tell hour", "tell 1"};
+        for (String end : ends) {
+            reads(c, " ".repeat(400 - end.length()) + end, Check.fault(400, 0));
+        }
+        reads(c, " ".repeat(391) + "tell 1<to", 0);
+        reads(c, " ".repeat(388) + "tell 1<99999", 0);
+        reads(c, " ".repeat(390) + "tell [1=1]", 0);
         reads(c, many("tell 1=1", 12), 0);
         reads(c, many("tell 1=1", 13), Check.fault(108, 4));
         reads(c, many("hush 1=2", 11) + ";tell 1=1", 0);
@@ -158,6 +167,13 @@ final class LawEdges {
                 lets(c, "tell 0-1+" + left + signs[s] + "0", due[s][left]);
             }
         }
+        String[] held = {"1<2", "1<=1", "1=1", "1>=1", "2>1"};
+        for (String fact : held) {
+            lets(c, "tell " + fact + " and 1=1", 1);
+            lets(c, "tell 1=1 and " + fact, 1);
+            lets(c, "tell not " + fact, 0);
+            lets(c, "tell " + fact + " and not [1=2 or 2<1]", 1);
+        }
         String[] wrong = {"==", "=<", "=>", "<>", "><", "<<", "<==", ">>", "= =", "< =", "> ="};
         int[] place = {7, 7, 7, 7, 7, 7, 8, 7, 8, 8, 8};
         for (int i = 0; i < wrong.length; i++) {
@@ -226,6 +242,12 @@ final class LawEdges {
             reads(c, "tell " + word + "1>=0", Check.fault(end, 0));
             reads(c, "tell " + word + " " + word + ">=0", Check.fault(end + 1, 0));
             reads(c, "tell " + word + "or>=0", Check.fault(5, 0));
+        }
+        for (int b : new int[] {'a', 'z', '`', '{', '@', 'A', 'Z', '[', '/', ':', '_'}) {
+            boolean letter = b == 'a' || b == 'z';
+            boolean joins = b == '/';
+            reads(c, "tell hour" + (char) b + "=1", Check.fault(letter ? 5 : joins ? 10 : 9, 0));
+            fresh(c).town("need" + (char) b + "1 1", Check.fault(letter ? 0 : 4, 0));
         }
         reads(c, "tell 1=1or 1=1and 1=1", 0);
         reads(c, "tell 1=1orhour=1", Check.fault(8, 0));
@@ -471,6 +493,10 @@ final class LawEdges {
         c.law("hush 1=1;hush", Check.fault(13, 0)).law("tell to=2", 0);
         c.due("nothing of the one with the fault", c.x.tells(0, 1), 1).due("its own", c.x.tells(0, 0), 0);
         c.law("tell to=1;tell", Check.fault(14, 0)).due("the law there was", c.x.tells(0, 0), 0);
+        for (int i = 0; i < 20; i++) {
+            c.law(ONES_58 + "+1=1", Check.fault(123, 3));
+        }
+        c.law("hush to=2", 1).due("behind many faults", c.x.tells(1, 0), 1).due("behind many faults", c.x.tells(1, 1), 0);
     }
 
     private static void sixLaws() {

@@ -181,6 +181,14 @@ final class SeekEdges {
             c.due("byBook " + p, c.x.byBook(0, p), due[p]);
         }
         c.due("first ones, talks stay", c.x.count(4) + c.x.count(0), 21);
+        // 0 told 6 nothing by the book, whatever was asked ahead of it.
+        c.town("need 1 1;need 6 1;talk 0 6 2;talk 0 1 1", 2);
+        enter(c, e(0, 1, 1));
+        c.due("a letter of 4", c.x.letter(0, 6, 5), 70).due("moved", c.x.moved(0, 0, 6, 0), -2);
+        c.due("6 by the book", c.x.byBook(0, 6), -2).due("1 by the book", c.x.byBook(0, 1), 1);
+        c.x.first(1);
+        c.due("6 by the talks", c.x.believes(0, 6), 2).due("6 by the book", c.x.byBook(0, 6), -2);
+        c.due("moved", c.x.moved(0, 1, 1, 0), 1).due("1 by the book", c.x.byBook(0, 1), 1).due("6", c.x.byBook(0, 6), -2);
         c = Sentence.told("27", "BY THE BOOK, the HOUR from which one believes it; -2: never;", "need 1 1;talk 0 1 99", 1, 1);
         c.due("without entries", c.x.byBook(0, 1), -2).due("first ones are not looked at", c.x.byBook(0, 0), -2);
         c.x.entry(0, 1, 99);

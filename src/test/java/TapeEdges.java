@@ -112,6 +112,14 @@ final class TapeEdges {
         c.due("none again", c.x.end(0), 0).due("nothing to read", c.x.town(), Check.fault(0, 0));
         c.write(" ".repeat(400)).due("400", c.x.end(400), 400).due("399", c.x.end(399), 399);
         c.due("1", c.x.end(1), 1);
+        // What was behind the end is not read on: of a number, a word, a sign.
+        c = Sentence.of("3", "The TAPE has its first n bytes alone: n;");
+        c.write("talk 0 1 99").due("end", c.x.end(10), 10).due("town", c.x.town(), 1).due("hour", c.x.talks(0, 2), 9);
+        c.write("need 123456").due("end", c.x.end(6), 6).due("town", c.x.town(), Check.fault(6, 0));
+        c.x.end(0);
+        c.write("tell 1<=1").due("end", c.x.end(7), 7).due("law", c.x.law(), Check.fault(7, 0));
+        c.write("tell tow").due("end", c.x.end(7), 7).due("law", c.x.law(), Check.fault(7, 0));
+        c.write("tell 1=tow").due("end", c.x.end(9), 9).due("law", c.x.law(), 0);
     }
 
     private static void endRefused() {

@@ -15,6 +15,7 @@ final class TellEdges {
         rowOfFirst();
         rowsPassedOn();
         wordsAhead();
+        wordsAnew();
         noRowsOfFirst();
         rowStays();
         believesBehind();
@@ -174,6 +175,19 @@ final class TellEdges {
             for (int t = 2; t < 6; t++) {
                 d.due("talk " + t + " by " + facts[i], d.x.tells(0, t), due[i][t]);
             }
+        }
+    }
+
+    /** What 0, who sees it, has heard is of this town, not of the one asked about ahead of it. */
+    private static void wordsAnew() {
+        Check c = Sentence.of("II", "(WORDS as by HOURS ahead of this one.");
+        c.town("talk 1 0 1;talk 0 2 2", 2).law("tell from=1;tell mouths=0", 0);
+        c.x.first(3);
+        for (int i = 0; i < 2; i++) {
+            c.due("0 has heard 1", c.x.tells(0, 1), 0);
+            c.x.silent(2);
+            c.due("1 is silent", c.x.tells(0, 1), 1);
+            c.x.silent(0);
         }
     }
 

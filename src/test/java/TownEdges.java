@@ -38,6 +38,11 @@ final class TownEdges {
         c.town("need 1 1" + " ".repeat(392), 0).town(" ".repeat(400), Check.fault(400, 0));
         c.town("need 1 1" + " ".repeat(391) + ";", Check.fault(400, 0));
         c.town("a", Check.fault(0, 0)).town("", Check.fault(0, 0));
+        c = Sentence.of("I", "A TOWN is a text of at most 400 bytes:");
+        String[] ends = {"need", "need 1", "deaf 1 2", "proud 1", "talk 1 2", "need 1 1;"};
+        for (String end : ends) {
+            c.town(" ".repeat(400 - end.length()) + end, Check.fault(400, 0));
+        }
     }
 
     private static void clauses() {

@@ -66,18 +66,8 @@ final class Twins {
     /** Puts a text on the tape alone. */
     static void text(TwoMouths x, String text) {
         x.end(0);
-        for (int at = 0; at < text.length(); at += 20) {
-            x.feed(four(text, at), four(text, at + 4), four(text, at + 8), four(text, at + 12), four(text, at + 16));
-        }
+        Check.feed(x, text);
         x.end(text.length());
-    }
-
-    private static int four(String text, int at) {
-        int n = 0;
-        for (int i = at; i < at + 4; i++) {
-            n = n << 8 | (i < text.length() ? text.charAt(i) & 255 : 0);
-        }
-        return n;
     }
 
     /** All that can be seen, the images and the tape last, as looking at these changes the rest. */
