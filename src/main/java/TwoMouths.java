@@ -326,7 +326,7 @@ public final class TwoMouths {
         runAsTold(law, hour);
         RowSet rows = spread.now[person];
         int left = k;
-        for (int r = rows.next(0); r < SETS; r = rows.next(r + 1)) {
+        for (int r = rows.next(0); r < SETS; r = Math.max(r + 1, rows.next(r + 1))) {
             if (left == 0) {
                 return r;
             }
@@ -1485,7 +1485,7 @@ public final class TwoMouths {
 
         private int shortest() {
             int least = PEOPLE;
-            for (int r = next(0); r < SETS; r = next(r + 1)) {
+            for (int r = next(0); r < SETS; r = Math.max(r + 1, next(r + 1))) {
                 least = Math.min(least, Integer.bitCount(r));
             }
             // No ROW of his has himself, so it has fewer than all.
@@ -1494,7 +1494,7 @@ public final class TwoMouths {
 
         private int union() {
             int all = 0;
-            for (int r = next(0); r < SETS; r = next(r + 1)) {
+            for (int r = next(0); r < SETS; r = Math.max(r + 1, next(r + 1))) {
                 all |= r;
             }
             return all;
@@ -1502,14 +1502,14 @@ public final class TwoMouths {
 
         private int common() {
             int all = EVERYBODY;
-            for (int r = next(0); r < SETS; r = next(r + 1)) {
+            for (int r = next(0); r < SETS; r = Math.max(r + 1, next(r + 1))) {
                 all &= r;
             }
             return all == EVERYBODY ? 0 : all;
         }
 
         private void addPassed(RowSet rows, int teller, int hearer) {
-            for (int r = rows.next(0); r < SETS; r = rows.next(r + 1)) {
+            for (int r = rows.next(0); r < SETS; r = Math.max(r + 1, rows.next(r + 1))) {
                 if (bit(r, hearer) == 0) {
                     add(r | 1 << teller);
                 }
@@ -1529,7 +1529,7 @@ public final class TwoMouths {
         private void look(RowSet rows) {
             size = 0;
             // What lies within a ROW is a lesser number, so it has been looked at ahead of it.
-            for (int r = rows.next(0); r < SETS; r = rows.next(r + 1)) {
+            for (int r = rows.next(0); r < SETS; r = Math.max(r + 1, rows.next(r + 1))) {
                 if (size < SETS && !isAnyWithin(r)) {
                     least[size] = r;
                     size++;
