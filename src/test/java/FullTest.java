@@ -94,7 +94,7 @@ public final class FullTest {
         fill();
         // A letter is a 31st talk, but only as long as it is looked for.
         for (int p = 0; p < 10; p++) {
-            call("letter", 0, p, 50);
+            call("letter", 0, p, 99);
             call("reach", p, 0);
             call("way", 0, p, 1, 0);
         }
