@@ -176,6 +176,11 @@ final class AskEdges {
         c.due("shortest", c.x.known(0, 9, 3, 1), 1).due("gate", c.x.known(0, 9, 3, 2), -2).due("gate", c.x.known(0, 8, 4, 2), 9);
         c.due("some", c.x.mouths(0, 9, 3, 0), 7).due("all", c.x.mouths(0, 9, 3, 1), 0).due("all", c.x.mouths(0, 8, 4, 1), 512);
         c.due("apart", c.x.apart(0, 9, 3), 2).due("part", c.x.known(0, 9, 3, 4), 4);
+        // 6 and 7: by 1 and 2, and by 1, 0 and 2.
+        c.town("talk 1 0 1;talk 1 2 1;talk 0 2 2;talk 2 9 3", 4);
+        c.x.first(2);
+        c.due("6", c.x.rowAt(0, 9, 3, 0), 6).due("7", c.x.rowAt(0, 9, 3, 1), 7).due("no more", c.x.rowAt(0, 9, 3, 2), -2);
+        c.due("some", c.x.mouths(0, 9, 3, 0), 7).due("all", c.x.mouths(0, 9, 3, 1), 6).due("gate", c.x.known(0, 9, 3, 2), 1);
     }
 
     private static void mouths() {
