@@ -1,6 +1,22 @@
-/** Promises 6 to 10, 22, 23, 32, 36, 38 to 40: what is told, kept, asked back and gone back to. */
+import java.io.IOException;
+import java.lang.reflect.Constructor;
+import java.lang.reflect.Field;
+import java.lang.reflect.Method;
+import java.lang.reflect.Modifier;
+import java.nio.file.Files;
+import java.nio.file.Path;
+import java.util.Set;
+import java.util.StringJoiner;
+import java.util.TreeSet;
+import java.util.regex.Matcher;
+import java.util.regex.Pattern;
+
+/** The public face; promises 6 to 10, 22, 23, 32, 36, 38 to 40: what is told, kept, asked back and gone back to. */
 public final class FaceTest {
-    public static void main(String[] args) {
+    private static final Path DOC = Path.of("..", "shared", "DOC.md");
+
+    public static void main(String[] args) throws IOException {
+        publicFace();
         talk();
         talks();
         person();
@@ -12,6 +28,52 @@ public final class FaceTest {
         count();
         images();
         Check.finish();
+    }
+
+    /** The face is the one of the document, line by line, with nothing beside it. */
+    private static void publicFace() throws IOException {
+        if (!Files.exists(DOC)) {
+            System.out.println(DOC + " is not there: the face is not compared with it");
+            return;
+        }
+        Check c = new Check("the public face");
+        Set<String> told = new TreeSet<>();
+        String doc = Files.readString(DOC);
+        String block = doc.substring(doc.indexOf("public final class TwoMouths {") + 30, doc.indexOf("## Terms"));
+        for (Matcher m = Pattern.compile("public ([^;]+);").matcher(block); m.find();) {
+            told.add(m.group(1).replaceAll("(int) \\w+(?=[,)])", "$1"));
+        }
+        Set<String> found = foundFace();
+        for (String line : told) {
+            c.due(line + " is there", found.contains(line) ? 1 : 0, 1);
+        }
+        c.due("lines of the face", found.size(), told.size());
+        c.due("calls, the constant and the constructor", told.size(), 41);
+    }
+
+    private static Set<String> foundFace() {
+        Set<String> found = new TreeSet<>();
+        for (Method m : TwoMouths.class.getDeclaredMethods()) {
+            if (Modifier.isPublic(m.getModifiers())) {
+                found.add(m.getReturnType() + " " + m.getName() + listed(m.getParameterTypes()));
+            }
+        }
+        for (Constructor<?> made : TwoMouths.class.getConstructors()) {
+            found.add("TwoMouths" + listed(made.getParameterTypes()));
+        }
+        for (Field f : TwoMouths.class.getFields()) {
+            boolean constant = Modifier.isStatic(f.getModifiers()) && Modifier.isFinal(f.getModifiers());
+            found.add((constant ? "static final " : "") + f.getType() + " " + f.getName() + " = " + TwoMouths.NONE);
+        }
+        return found;
+    }
+
+    private static String listed(Class<?>[] types) {
+        StringJoiner list = new StringJoiner(", ", "(", ")");
+        for (Class<?> type : types) {
+            list.add(type.getName());
+        }
+        return list.toString();
     }
 
     private static void talk() {
